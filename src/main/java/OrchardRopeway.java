@@ -623,7 +623,7 @@ public final class OrchardRopeway {
                 if (blocked) {
                     coolDown();
                 } else {
-                    move();
+                    move(imbalanceNow());
                     if (isAtStations()) {
                         stop();
                     }
@@ -639,8 +639,7 @@ public final class OrchardRopeway {
             }
         }
 
-        void move() {
-            int imbalance = imbalanceNow();
+        void move(int imbalance) {
             place += up ? 1 : -1;
             if (place == MIDDLE) {
                 meetings++;

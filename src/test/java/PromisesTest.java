@@ -162,6 +162,23 @@ public final class PromisesTest {
         refused("picker 21 from a wrong station", INDEX, () -> full.addPicker(70, 7, 1));
         full.removePicker(19);
         due("room again", full.addPicker(70, 0, 1), 20);
+        dueAnswersOfTwenty();
+    }
+
+    /** With every row in use, a look at one row too many would leave the arrays. */
+    private static void dueAnswersOfTwenty() {
+        OrchardRopeway x = withTwentyPickers();
+        due("waiting(0)", x.waiting(0), 3);
+        due("waitingAt(5, 2)", x.waitingAt(5, 2), 19);
+        refused("waitingAt(5, 3)", ELEMENT, () -> x.waitingAt(5, 3));
+        refused("riderAt(0, 0)", ELEMENT, () -> x.riderAt(0, 0));
+        due("the lightest", x.pickerByWeight(19), 0);
+        refused("rank 20", ELEMENT, () -> x.pickerByWeight(20));
+        due("isPresent(20)", x.isPresent(20), false);
+        due("nobody boards between stations", x.pass(3), 0);
+        due("nobody arrives at once", x.pass(1), 0);
+        due("three board at station 1, nobody wants down at station 5", stationsLine(x), "3/2/0/2/3/2/3/2/3/2/3/2/2");
+        due("isConsistent", x.isConsistent(), true);
     }
 
     private static void promise03() {
@@ -320,6 +337,17 @@ public final class PromisesTest {
         edge.pass(1);
         due("heat 50", edge.heat(), 50);
         due("50 is free", edge.isBlocked(), false);
+
+        OrchardRopeway odd = withSlopes(0, 0, 0, 7, 9, 9);
+        odd.pass(11);
+        odd.setSlope(3, 8);
+        odd.pass(11);
+        due("heat 51", odd.heat(), 51);
+        due("51 stays blocked", odd.isBlocked(), true);
+        due("one minute more", odd.blockedMinutes(), 1);
+        odd.pass(1);
+        due("heat 46", odd.heat(), 46);
+        due("46 is free", odd.isBlocked(), false);
     }
 
     private static void promise07Stops() {
@@ -514,6 +542,40 @@ public final class PromisesTest {
         x.pass(16);
         due("cabinWeight(0) after arrivals", x.cabinWeight(0), 200);
         due("riders(0) after arrivals", x.riders(0), 0);
+        dueOrderOfBoarding();
+    }
+
+    private static void dueOrderOfBoarding() {
+        OrchardRopeway x = make();
+        x.addPicker(70, 6, 5);
+        x.addPicker(70, 3, 6);
+        x.addPicker(70, 2, 6);
+        x.addPicker(70, 1, 5);
+        x.addPicker(70, 1, 6);
+        x.pass(4);
+        due("of one station by number", cabinLine(x, 0), "0@4+ 3>5 4>6");
+        x.pass(4);
+        x.save();
+        x.removePicker(0);
+        x.pass(4);
+        due("when the rows move up", cabinLine(x, 0), "0@12+ 3>5 4>6 2>6 1>6");
+        x.undo();
+        x.undo();
+        due("after undo", cabinLine(x, 0), "0@8+ 3>5 4>6 2>6");
+        x.pass(4);
+        due("boarding goes on after undo", cabinLine(x, 0), "0@12+ 3>5 4>6 2>6 1>6");
+        x.restore();
+        due("after restore", cabinLine(x, 0), "0@8+ 3>5 4>6 2>6");
+        x.pass(12);
+        due("when others have left", cabinLine(x, 0), "0@20+ 4>6 2>6 1>6");
+        due("riderAt(0, 2)", x.riderAt(0, 2), 1);
+
+        OrchardRopeway y = make();
+        y.addPicker(70, 1, 6);
+        y.addPicker(70, 2, 6);
+        y.pass(8);
+        due("the first picker boards first", y.riderAt(0, 0), 0);
+        due("the second picker boards second", y.riderAt(0, 1), 1);
     }
 
     private static void promise23And24() {
@@ -767,6 +829,13 @@ public final class PromisesTest {
         due("2 of 10", x.occupancy(), 2.0f / 10.0f);
         x.setCapacity(1);
         due("2 of 2", x.occupancy(), 1.0f);
+
+        OrchardRopeway y = make();
+        y.addPicker(70, 1, 3);
+        y.addPicker(70, 1, 3);
+        y.addPicker(70, 5, 3);
+        y.pass(4);
+        due("2 and 1 of 8", y.occupancy(), 3.0f / 8.0f);
     }
 
     private static void promise42() {
@@ -797,6 +866,19 @@ public final class PromisesTest {
         x.pass(8);
         due("length", x.writeCabin(0), 14);
         due("cabin 0", output(x, 14), "0@8+ 13>6 12>6");
+
+        OrchardRopeway y = make();
+        for (int i = 0; i < 112; i++) {
+            y.addPicker(70, 6, 0);
+            if (i != 10 && i != 11 && i != 100 && i != 111) {
+                y.removePicker(i);
+            }
+        }
+        y.pass(24);
+        due("all digits of a number", cabinLine(y, 0), "0@24- 10>0 11>0 100>0 111>0");
+        y.pass(14);
+        due("two digits of a place", cabinLine(y, 0), "0@10- 10>0 11>0 100>0 111>0");
+        due("the empty cabin", cabinLine(y, 1), "1@14+");
     }
 
     private static void promise44() {
@@ -810,6 +892,12 @@ public final class PromisesTest {
         due("stations", output(x, 26), "1/0/0/1/0/2/1/3/0/4/0/9/12");
         x.pass(24);
         due("stations after boarding", stationsLine(x), "0/0/0/1/0/2/0/3/0/4/0/9/8");
+
+        OrchardRopeway y = make();
+        for (int i = 0; i < 20; i++) {
+            y.addPicker(70, i % 2, 6);
+        }
+        due("ten and ten", stationsLine(y), "10/2/10/2/0/2/0/2/0/2/0/2/0");
     }
 
     private static void promise45() {
