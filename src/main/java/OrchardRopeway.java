@@ -23,6 +23,7 @@ public final class OrchardRopeway {
 
     private static final int UNDO_LIMIT = 8;
     private static final int TEXT_LIMIT = 60;
+    private static final int NUMBER_DIGITS = 3;
     /** A text of 60 characters has room for 12 commands. */
     private static final int COMMAND_LIMIT = 16;
     /** Room for six pickers whose numbers have as many digits as an int can have. */
@@ -1064,17 +1065,17 @@ public final class OrchardRopeway {
         boolean readForm() {
             switch (signAt(position)) {
                 case 'p':
-                    return readStart(ADD, "picker ") && readNumber(firsts)
-                            && readWord(" ") && readDigit(seconds) && readWord(">") && readDigit(thirds);
+                    return readStart(ADD, "picker ") && readDigits(firsts, NUMBER_DIGITS)
+                            && readWord(" ") && readDigits(seconds, 1) && readWord(">") && readDigits(thirds, 1);
                 case 'r':
-                    return readStart(REMOVE, "remove ") && readNumber(firsts);
+                    return readStart(REMOVE, "remove ") && readDigits(firsts, NUMBER_DIGITS);
                 case 's':
-                    return readStart(SLOPE, "slope ") && readDigit(firsts)
-                            && readWord("=") && readDigit(seconds);
+                    return readStart(SLOPE, "slope ") && readDigits(firsts, 1)
+                            && readWord("=") && readDigits(seconds, 1);
                 case 't':
                     return readStart(TURN, "turn");
                 case 'c':
-                    return readStart(CAPACITY, "capacity ") && readDigit(firsts);
+                    return readStart(CAPACITY, "capacity ") && readDigits(firsts, 1);
                 case 'w':
                     return readStart(WAIT, "wait") && readMinutes();
                 default:
@@ -1090,7 +1091,7 @@ public final class OrchardRopeway {
         boolean readMinutes() {
             if (signAt(position) == ' ') {
                 position++;
-                return readNumber(firsts);
+                return readDigits(firsts, NUMBER_DIGITS);
             }
             firsts[commands] = 1;
             return true;
@@ -1104,14 +1105,6 @@ public final class OrchardRopeway {
                 position++;
             }
             return true;
-        }
-
-        boolean readNumber(int[] column) {
-            return readDigits(column, 3);
-        }
-
-        boolean readDigit(int[] column) {
-            return readDigits(column, 1);
         }
 
         boolean readDigits(int[] column, int most) {
