@@ -7,11 +7,22 @@ final class Checks {
     private static final int MOST_PRINTED = 40;
 
     private final String name;
+    private String subject;
     private int made = 0;
     private int wrong = 0;
 
     Checks(String name) {
         this.name = name;
+        this.subject = name;
+    }
+
+    /** What the answers that are looked at from now on belong to; it stands before each wrong one. */
+    void about(String newSubject) {
+        subject = newSubject;
+    }
+
+    int made() {
+        return made;
     }
 
     void due(String call, Object got, Object want) {
@@ -37,7 +48,7 @@ final class Checks {
     void tell(String text) {
         wrong++;
         if (wrong <= MOST_PRINTED) {
-            System.out.println(name + ": " + text);
+            System.out.println(subject + ": " + text);
         }
     }
 

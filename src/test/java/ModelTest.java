@@ -1,8 +1,9 @@
-/** Long mixed runs, the same every time, on the class and on the model side by side. */
+/** Mixed runs of as many calls as an object is used for, the same every time, on the class and on the model. */
 public final class ModelTest {
-    private static final int RUNS = 500;
-    private static final int CHANGES = 300;
-    private static final int QUESTIONS_EVERY = 3;
+    private static final int RUNS = 20000;
+    private static final int CALLS = 512;
+    /** In some runs much is asked, in others much happens. */
+    private static final int[] CHANGES_FOR_A_QUESTION = {3, 12, 50};
 
     private static final Checks CHECKS = new Checks("ModelTest");
 
@@ -12,6 +13,7 @@ public final class ModelTest {
     private long seed;
     /** Odd runs get many pickers, every third one steep slopes, so that both limits are reached. */
     private final int kind;
+    private int calls = 0;
 
     private ModelTest(int run) {
         seed = run * 7919L + 17;
@@ -21,17 +23,22 @@ public final class ModelTest {
     public static void main(String[] args) {
         for (int run = 0; run < RUNS && !CHECKS.hasFailed(); run++) {
             ModelTest test = new ModelTest(run);
-            for (int i = 0; i < CHANGES && !CHECKS.hasFailed(); i++) {
-                test.change();
-                if (i % QUESTIONS_EVERY == 0) {
-                    test.askAll();
-                }
-            }
+            test.runToTheLastCall();
             if (CHECKS.hasFailed()) {
                 CHECKS.tell("run " + run + ":" + test.history);
             }
         }
         CHECKS.end();
+    }
+
+    private void runToTheLastCall() {
+        int changes = CHANGES_FOR_A_QUESTION[kind / 6 % CHANGES_FOR_A_QUESTION.length];
+        while (calls < CALLS && !CHECKS.hasFailed()) {
+            change();
+            if (random(changes) == 0) {
+                ask();
+            }
+        }
     }
 
     private int random(int end) {
@@ -44,8 +51,12 @@ public final class ModelTest {
                 : low + random(high - low + 1);
     }
 
+    /** What an object answers after its last call is free. */
     private void same(String call, Checks.Call ofReal, Checks.Call ofModel) {
-        CHECKS.due(call, Checks.outcome(ofReal), Checks.outcome(ofModel));
+        if (calls < CALLS) {
+            calls++;
+            CHECKS.due(call, Checks.outcome(ofReal), Checks.outcome(ofModel));
+        }
     }
 
     private void change() {
@@ -157,19 +168,15 @@ public final class ModelTest {
         }
     }
 
-    private void askAll() {
-        askLine();
-        for (int cabin = -1; cabin <= 2; cabin++) {
-            askCabin(cabin);
+    private void ask() {
+        switch (random(6)) {
+            case 0 -> askLine();
+            case 1 -> askCabin(near(0, 1));
+            case 2 -> askStation(near(0, 6));
+            case 3 -> askPicker(near(0, model.came()));
+            case 4 -> askSums();
+            default -> askTexts();
         }
-        for (int station = -1; station <= 7; station++) {
-            askStation(station);
-        }
-        for (int picker = -1; picker <= model.came() + 1; picker++) {
-            askPicker(picker);
-        }
-        askSums();
-        askTexts();
     }
 
     private void askLine() {

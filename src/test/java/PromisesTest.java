@@ -1,17 +1,5 @@
-import java.util.NoSuchElementException;
-
 /** For every promise of the document: ordinary inputs, the edges that it names, and wrong inputs. */
-public final class PromisesTest {
-    private static final Class<IndexOutOfBoundsException> INDEX = IndexOutOfBoundsException.class;
-    private static final Class<IllegalArgumentException> ARGUMENT = IllegalArgumentException.class;
-    private static final Class<IllegalStateException> STATE = IllegalStateException.class;
-    private static final Class<UnsupportedOperationException> UNSUPPORTED = UnsupportedOperationException.class;
-    private static final Class<NoSuchElementException> ELEMENT = NoSuchElementException.class;
-
-    private static final int[] NO_NUMBERS = {Integer.MIN_VALUE, -1, Integer.MAX_VALUE};
-
-    private static final Checks CHECKS = new Checks("PromisesTest");
-
+public final class PromisesTest extends TestBase {
     private PromisesTest() {
     }
 
@@ -58,66 +46,6 @@ public final class PromisesTest {
         CHECKS.end();
     }
 
-    private static void due(String call, Object got, Object want) {
-        CHECKS.due(call, got, want);
-    }
-
-    private static void refused(String call, Class<? extends RuntimeException> want, Checks.Call made) {
-        CHECKS.refused(call, want, made);
-    }
-
-    private static OrchardRopeway make() {
-        return new OrchardRopeway();
-    }
-
-    private static OrchardRopeway withSlopes(int... slopes) {
-        OrchardRopeway x = make();
-        for (int segment = 0; segment < slopes.length; segment++) {
-            x.setSlope(segment, slopes[segment]);
-        }
-        return x;
-    }
-
-    /** With empty cabins the heat rises by 9 in each of the first 12 minutes: 99 at place 11, 108 at place 12. */
-    private static OrchardRopeway hot() {
-        return withSlopes(0, 0, 0, 9, 9, 9);
-    }
-
-    private static OrchardRopeway withTwentyPickers() {
-        OrchardRopeway x = make();
-        for (int i = 0; i < 20; i++) {
-            x.addPicker(40 + i, i % 7, (i + 1) % 7);
-        }
-        return x;
-    }
-
-    private static void typeAll(OrchardRopeway x, String text) {
-        for (int i = 0; i < text.length(); i++) {
-            x.type(text.charAt(i));
-        }
-    }
-
-    private static int runText(OrchardRopeway x, String text) {
-        typeAll(x, text);
-        return x.run();
-    }
-
-    private static String output(OrchardRopeway x, int length) {
-        StringBuilder text = new StringBuilder();
-        for (int i = 0; i < length; i++) {
-            text.append(x.charAt(i));
-        }
-        return text.toString();
-    }
-
-    private static String cabinLine(OrchardRopeway x, int cabin) {
-        return output(x, x.writeCabin(cabin));
-    }
-
-    private static String stationsLine(OrchardRopeway x) {
-        return output(x, x.writeStations());
-    }
-
     private static void promise01() {
         OrchardRopeway x = make();
         due("pickers", x.pickers(), 0);
@@ -143,7 +71,7 @@ public final class PromisesTest {
         refused("weight 39", ARGUMENT, () -> x.addPicker(39, 0, 6));
         refused("weight 121", ARGUMENT, () -> x.addPicker(121, 0, 6));
         refused("the same station", ARGUMENT, () -> x.addPicker(70, 3, 3));
-        for (int wrong : new int[] {Integer.MIN_VALUE, -1, 7, Integer.MAX_VALUE}) {
+        for (int wrong : NO_STATIONS) {
             refused("from " + wrong, INDEX, () -> x.addPicker(70, wrong, 0));
             refused("to " + wrong, INDEX, () -> x.addPicker(70, 0, wrong));
             refused("both " + wrong, INDEX, () -> x.addPicker(0, wrong, wrong));
@@ -212,11 +140,11 @@ public final class PromisesTest {
         due("slope(0)", x.slope(0), 0);
         due("slope(5)", x.slope(5), 3);
         due("slope(1)", x.slope(1), 2);
-        for (int wrong : new int[] {Integer.MIN_VALUE, -1, 6, Integer.MAX_VALUE}) {
+        for (int wrong : NO_SEGMENTS) {
             refused("segment " + wrong, INDEX, () -> x.setSlope(wrong, 2));
             refused("segment first " + wrong, INDEX, () -> x.setSlope(wrong, 10));
         }
-        for (int wrong : new int[] {Integer.MIN_VALUE, -1, 10, Integer.MAX_VALUE}) {
+        for (int wrong : NO_SLOPES) {
             refused("slope " + wrong, ARGUMENT, () -> x.setSlope(5, wrong));
         }
         due("slope(5) after refusals", x.slope(5), 3);
@@ -258,7 +186,7 @@ public final class PromisesTest {
         due("setCapacity(6)", x.setCapacity(6), 4);
         due("setCapacity(1)", x.setCapacity(1), 6);
         due("setCapacity(3)", x.setCapacity(3), 1);
-        for (int wrong : new int[] {Integer.MIN_VALUE, 0, 7, Integer.MAX_VALUE}) {
+        for (int wrong : NO_CAPACITIES) {
             refused("capacity " + wrong, ARGUMENT, () -> x.setCapacity(wrong));
         }
         for (int cabin = 0; cabin < 2; cabin++) {
@@ -277,7 +205,7 @@ public final class PromisesTest {
 
     private static void promise07() {
         OrchardRopeway x = make();
-        for (int wrong : new int[] {Integer.MIN_VALUE, -1, 0, 241, Integer.MAX_VALUE}) {
+        for (int wrong : NO_MINUTES) {
             refused("pass " + wrong, ARGUMENT, () -> x.pass(wrong));
         }
         due("time after refusals", x.time(), 0);
@@ -401,7 +329,7 @@ public final class PromisesTest {
         for (int segment = 0; segment < 6; segment++) {
             due("slope " + segment, x.slope(segment), segment + 1);
         }
-        for (int wrong : new int[] {Integer.MIN_VALUE, -1, 6, Integer.MAX_VALUE}) {
+        for (int wrong : NO_SEGMENTS) {
             refused("slope " + wrong, INDEX, () -> x.slope(wrong));
         }
         due("capacity", x.capacity(), 4);
@@ -506,7 +434,7 @@ public final class PromisesTest {
         due("goesUp(1) at 0", x.goesUp(1), true);
         due("nextSegment(0) at 24", x.nextSegment(0), 5);
         due("nextSegment(1) at 0", x.nextSegment(1), 0);
-        for (int wrong : new int[] {Integer.MIN_VALUE, -1, 2, Integer.MAX_VALUE}) {
+        for (int wrong : NO_CABINS) {
             refused("place " + wrong, INDEX, () -> x.place(wrong));
             refused("goesUp " + wrong, INDEX, () -> x.goesUp(wrong));
             refused("station " + wrong, INDEX, () -> x.station(wrong));
@@ -533,7 +461,7 @@ public final class PromisesTest {
         for (int none : NO_NUMBERS) {
             refused("riderAt(0, none)", ELEMENT, () -> x.riderAt(0, none));
         }
-        for (int wrong : new int[] {Integer.MIN_VALUE, -1, 2, Integer.MAX_VALUE}) {
+        for (int wrong : NO_CABINS) {
             refused("cabinWeight " + wrong, INDEX, () -> x.cabinWeight(wrong));
             refused("riders " + wrong, INDEX, () -> x.riders(wrong));
             refused("riderAt " + wrong, INDEX, () -> x.riderAt(wrong, 0));
@@ -590,11 +518,11 @@ public final class PromisesTest {
         x.turn();
         dueUnits(x, 0, new int[] {8, 4, 0, 20, 24, 28, 32});
         dueUnits(x, 1, new int[] {32, 28, 24, 20, 0, 4, 8});
-        for (int wrong : new int[] {Integer.MIN_VALUE, -1, 2, Integer.MAX_VALUE}) {
+        for (int wrong : NO_CABINS) {
             refused("unitsUntil cabin " + wrong, INDEX, () -> x.unitsUntil(wrong, 0));
             refused("unitsUntilByMoving cabin " + wrong, INDEX, () -> x.unitsUntilByMoving(wrong, 0));
         }
-        for (int wrong : new int[] {Integer.MIN_VALUE, -1, 7, Integer.MAX_VALUE}) {
+        for (int wrong : NO_STATIONS) {
             refused("unitsUntil station " + wrong, INDEX, () -> x.unitsUntil(0, wrong));
             refused("unitsUntilByMoving station " + wrong, INDEX, () -> x.unitsUntilByMoving(1, wrong));
         }
@@ -676,7 +604,7 @@ public final class PromisesTest {
         for (int none : NO_NUMBERS) {
             refused("waitingAt none", ELEMENT, () -> x.waitingAt(1, none));
         }
-        for (int wrong : new int[] {Integer.MIN_VALUE, -1, 7, Integer.MAX_VALUE}) {
+        for (int wrong : NO_STATIONS) {
             refused("waiting " + wrong, INDEX, () -> x.waiting(wrong));
             refused("waitingAt " + wrong, INDEX, () -> x.waitingAt(wrong, 0));
             refused("waitingAt, no position either " + wrong, INDEX, () -> x.waitingAt(wrong, -1));
@@ -800,10 +728,10 @@ public final class PromisesTest {
 
     private static void promise40() {
         OrchardRopeway x = make();
-        refused("nobody", ArithmeticException.class, x::meanJourney);
+        refused("nobody", ARITHMETIC, x::meanJourney);
         x.addPicker(70, 1, 2);
         x.addPicker(70, 6, 5);
-        refused("nobody has arrived", ArithmeticException.class, x::meanJourney);
+        refused("nobody has arrived", ARITHMETIC, x::meanJourney);
         x.pass(3);
         x.addPicker(70, 1, 3);
         x.addPicker(70, 1, 3);
