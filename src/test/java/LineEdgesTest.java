@@ -534,19 +534,6 @@ public final class LineEdgesTest extends TestBase {
         due("98 is free", x.isBlocked(), false);
     }
 
-    /** Heat 140 at place 7: the heaviest cabin goes down the steepest slope when the heat is 99. */
-    private static OrchardRopeway hottest() {
-        OrchardRopeway x = withEverySlope(0);
-        x.setCapacity(6);
-        for (int i = 0; i < 6; i++) {
-            x.addPicker(120, 5, 0);
-        }
-        for (int slope : new int[] {9, 9, 9, 9, 6, 8, 9}) {
-            heatUp(x, slope);
-        }
-        return x;
-    }
-
     private static void hottestBrake() {
         OrchardRopeway x = hottest();
         due("heat 36 + 27 + 36 + 41", x.heat(), 140);

@@ -29,7 +29,7 @@ abstract class TestBase {
         CHECKS.refused(call, want, made);
     }
 
-    /** A test of one sentence of the document, which is quoted before each wrong answer. */
+    /** A test of one sentence of the document, or of a part of one, which is told before each wrong answer. */
     static void sentence(String text, Runnable test) {
         CHECKS.about(text);
         int before = CHECKS.made();
@@ -101,6 +101,19 @@ abstract class TestBase {
             }
         }
         x.pass(1);
+    }
+
+    /** Heat 140 at place 7: the heaviest cabin goes down the steepest slope when the heat is 99. */
+    static OrchardRopeway hottest() {
+        OrchardRopeway x = withEverySlope(0);
+        x.setCapacity(6);
+        for (int i = 0; i < 6; i++) {
+            x.addPicker(120, 5, 0);
+        }
+        for (int slope : new int[] {9, 9, 9, 9, 6, 8, 9}) {
+            heatUp(x, slope);
+        }
+        return x;
     }
 
     /**

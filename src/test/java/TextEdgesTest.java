@@ -58,15 +58,15 @@ public final class TextEdgesTest extends TestBase {
 
         OrchardRopeway x = withEverySlope(0);
         x.setCapacity(6);
-        for (int number = 0; number < 102; number++) {
+        for (int number = 0; number < 120; number++) {
             x.addPicker(70, 6, 0);
-            if (number != 0 && number != 9 && number != 10 && number < 99) {
+            if (number != 0 && number != 9 && number != 10 && number != 99 && number != 100 && number != 119) {
                 x.removePicker(number);
             }
         }
         x.pass(24);
         due("the length of a full cabin", x.writeCabin(0), 35);
-        due("a full cabin", output(x, 35), "0@24- 0>0 9>0 10>0 99>0 100>0 101>0");
+        due("a full cabin", output(x, 35), "0@24- 0>0 9>0 10>0 99>0 100>0 119>0");
         due("the length of the empty cabin", x.writeCabin(1), 4);
         due("the empty cabin", output(x, 4), "1@0+");
     }
